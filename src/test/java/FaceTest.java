@@ -22,8 +22,18 @@ public final class FaceTest {
             int modifiers = inside.getModifiers();
             boolean hidden = !Modifier.isPublic(modifiers) && !Modifier.isProtected(modifiers);
             Check.isTrue(inside + " is static and not open", Modifier.isStatic(modifiers) && hidden);
+            namesOfItsOwn(face, inside);
         }
         Check.end("FaceTest");
+    }
+
+    private static void namesOfItsOwn(Class<?> face, Class<?> inside) {
+        for (Method method : inside.getDeclaredMethods()) {
+            for (Method open : face.getDeclaredMethods()) {
+                boolean same = Modifier.isPublic(open.getModifiers()) && open.getName().equals(method.getName());
+                Check.isTrue(method + " bears the name of a method of the face", !same);
+            }
+        }
     }
 
     private static List<String> due() {

@@ -13,6 +13,7 @@ public final class ReadersTest {
         pass();
         passRefuses();
         tries();
+        fullTable();
         Check.end("ReadersTest");
     }
 
@@ -22,7 +23,10 @@ public final class ReadersTest {
         Check.due("takes(3, 129)", x.takes(3, 129), 0);
         Check.due("reader(3, 0)", x.reader(3, 0), 129);
         Check.due("reader(2, 0)", x.reader(2, 0), 255);
-        Check.undoable(x, "takes(3, 5)", () -> x.takes(3, 5));
+        for (int reader = 0; reader < 4; reader++) {
+            int at = reader;
+            Check.undoable(x, "takes(" + reader + ", 5)", () -> x.takes(at, 5));
+        }
         for (int key = 0; key < 8; key++) {
             x.put(key, 0);
         }
@@ -296,6 +300,30 @@ public final class ReadersTest {
         x.pass(5);
         Check.due("and dead when its hold ends", x.row(0, 3), 3);
         Check.due("with its tries", x.row(0, 6), 4);
+    }
+
+    /** All rows that there can be are held, renewed and lapse, of each reader some. */
+    private static void fullTable() {
+        SkipRows x = new SkipRows();
+        Check.type(x, "k0*9;k1*9;k2*6");
+        x.putAll();
+        x.set(3, 6);
+        for (int reader = 0; reader < 4; reader++) {
+            Check.due("take(" + reader + ", 24)", x.take(reader, 24), 6);
+            Check.due("when its first hold lapses", x.reader(reader, 5), 5);
+        }
+        Check.due("all skips", x.count(9), 6 + 12 + 18);
+        Check.due("renew(3)", x.renew(3), 6);
+        Check.due("ifPassed(5, 0)", x.ifPassed(5, 0), 24);
+        Check.undoable(x, "pass(5)", () -> x.pass(5));
+        Check.due("pass(5)", x.pass(5), 24);
+        for (int reader = 0; reader < 4; reader++) {
+            Check.due("holds of a reader that ended", x.reader(reader, 4), 6);
+            Check.due("rows that it holds then", x.reader(reader, 1), 0);
+            Check.due("when its first hold lapses then", x.reader(reader, 5), -1);
+        }
+        Check.due("the last row's place", x.row(23, 9), 23);
+        Check.due("the first row that waits", x.count(11), 0);
     }
 
     /** The rows 0 and 1 are held by the reader 1, 2 by the reader 2, 3 waits; the time is 0. */

@@ -9,6 +9,7 @@ public final class RowsTest {
         revive();
         reviveRefuses();
         sweep();
+        sweepMovesWhole();
         set();
         setRefuses();
         Check.end("RowsTest");
@@ -162,6 +163,64 @@ public final class RowsTest {
         SkipRows other = withOneOfEachState();
         Check.due("sweep() leaves waiting, held and dead rows", other.sweep(), 1);
         Check.due("the dead row is there still", other.row(2, 3), 3);
+    }
+
+    /** A row that moves keeps all that it knows, and one that is put where another was begins anew. */
+    private static void sweepMovesWhole() {
+        SkipRows x = new SkipRows();
+        x.put(1, 9);
+        x.pass(1);
+        x.put(2, 8);
+        x.take(3, 2);
+        x.pass(5);
+        x.take(1, 1);
+        x.set(0, 7);
+        x.take(2, 1);
+        x.done(1, 0);
+        int[] moved = {2, 8, 1, 1, 2, 13, 1, 0, 0, 0, 5};
+        Check.undoable(x, "sweep()", () -> x.sweep());
+        Check.due("the row 1 is back behind undo()", x.row(1, 2), 1);
+        x.take(0, 1);
+        moved[7] = 1;
+        Check.due("sweep()", x.sweep(), 1);
+        for (int what = 0; what <= 10; what++) {
+            Check.due("row(0, " + what + ") of the row that moved", x.row(0, what), moved[what]);
+        }
+        x.done(2, 0);
+        Check.due("sweep() of the last row", x.sweep(), 1);
+        x.put(5, 4);
+        int[] begun = {5, 4, 2, 0, -1, -1, 0, 0, 0, 0, 0};
+        for (int what = 0; what <= 10; what++) {
+            Check.due("row(0, " + what + ") of a row put anew", x.row(0, what), begun[what]);
+        }
+        x.take(0, 1);
+        x.put(6, 3);
+        x.undo();
+        x.put(7, 2);
+        int[] again = {7, 2, 3, 0, -1, -1, 0, 0, 0, 1, 0};
+        for (int what = 0; what <= 10; what++) {
+            Check.due("row(1, " + what + ") of a row put behind undo()", x.row(1, what), again[what]);
+        }
+        overUndone(x);
+    }
+
+    /** The row that undo takes away was held, skipped and tried: nothing of it is in the next one. */
+    private static void overUndone(SkipRows x) {
+        x.undo();
+        x.put(7, 2);
+        x.takes(1, 0);
+        x.take(1, 1);
+        x.take(2, 1);
+        x.pass(7);
+        x.take(2, 2);
+        Check.due("tries of the row 1", x.row(1, 6), 1);
+        Check.due("undo()", x.undo() + x.undo() + x.undo() + x.undo() + x.undo() + x.undo(), 15);
+        Check.due("rows then", x.count(1), 1);
+        x.put(0, 0);
+        int[] begun = {0, 0, 3, 0, -1, -1, 0, 0, 0, 1, 0};
+        for (int what = 0; what <= 10; what++) {
+            Check.due("row(1, " + what + ") over an undone one", x.row(1, what), begun[what]);
+        }
     }
 
     private static void set() {

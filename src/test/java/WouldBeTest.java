@@ -150,6 +150,9 @@ public final class WouldBeTest {
         Check.due("freest() with nobody", x.freest(), -1);
         x.takes(3, 4);
         Check.due("freest(), the last one", x.freest(), 3);
+        x.set(3, 1);
+        x.takes(0, 4);
+        Check.due("freest() of one row each", x.freest(), 0);
         Check.due("no skips came of it but that of a take", x.count(9), 1);
     }
 
@@ -192,7 +195,12 @@ public final class WouldBeTest {
         x.takes(1, 77);
         x.take(1, 3);
         digestFits(x);
-        x.pass(5);
+        for (int lasts = 9; lasts <= 11; lasts++) {
+            x.set(0, lasts);
+            x.renew(1);
+            digestFits(x);
+        }
+        x.pass(11);
         x.take(2, 4);
         x.done(2, 1);
         Check.type(x, "~!k");
