@@ -62,13 +62,31 @@ final class Check {
     /** The call must save one state, and undo must bring everything back (the buffer is the caller's). */
     static void undoable(SkipRows x, String what, Call call) {
         int saved = x.count(12);
-        long before = x.digest();
+        long before = stateOf(x);
         call.run();
         due("saved states after " + what, x.count(12), Math.min(saved + 1, 6));
         due("undo() after " + what, x.undo(), Math.min(saved, 5));
-        if (saved < 6) {
-            due("digest() after " + what + " and undo()", x.digest(), before);
+        due("the state after " + what + " and undo()", stateOf(x), before);
+    }
+
+    /** A hash of all that undo brings back, so without the buffer and the number of saved states. */
+    static long stateOf(SkipRows x) {
+        long state = 7;
+        for (int what = 0; what < 12; what++) {
+            state = state * 31 + x.count(what);
         }
+        for (int at = 0; at < 4; at++) {
+            state = state * 31 + x.setting(at);
+            for (int what = 0; what <= 6; what++) {
+                state = state * 31 + x.reader(at, what);
+            }
+        }
+        for (int row = 0; row < x.count(1); row++) {
+            for (int what = 0; what <= 10; what++) {
+                state = state * 31 + x.row(row, what);
+            }
+        }
+        return state;
     }
 
     static void type(SkipRows x, String text) {

@@ -160,31 +160,18 @@ public final class TextsTest {
         SkipRows x = new SkipRows();
         long[] before = new long[9];
         for (int i = 0; i < 9; i++) {
-            before[i] = stateOf(x);
+            before[i] = Check.stateOf(x);
             x.put(i % 8, i);
             Check.due("saved states", x.count(12), Math.min(i + 1, 6));
         }
         for (int left = 5; left >= 0; left--) {
             Check.due("undo()", x.undo(), left);
-            Check.due("the state then", stateOf(x), before[left + 3]);
+            Check.due("the state then", Check.stateOf(x), before[left + 3]);
         }
         Check.badState(x, "undo() of nothing", () -> x.undo());
         Check.due("rows then", x.count(1), 3);
         x.put(0, 0);
         Check.due("undo() of what came behind", x.undo(), 0);
-    }
-
-    private static long stateOf(SkipRows x) {
-        long state = 7;
-        for (int what = 0; what < 12; what++) {
-            state = state * 31 + x.count(what);
-        }
-        for (int row = 0; row < x.count(1); row++) {
-            for (int what = 0; what <= 10; what++) {
-                state = state * 31 + x.row(row, what);
-            }
-        }
-        return state;
     }
 
     private static void undoKeepsTheBuffer() {
