@@ -17,6 +17,10 @@ final class Check {
         }
     }
 
+    static void due(String what, String got, String want) {
+        isTrue(what + " answered " + got + ", due is " + want, got.equals(want));
+    }
+
     static void due(String what, double got, double want) {
         due(what + " (" + got + ", due is " + want + ") by its bits",
                 Double.doubleToLongBits(got), Double.doubleToLongBits(want));
@@ -59,7 +63,7 @@ final class Check {
         refused(x, what, IllegalStateException.class, call);
     }
 
-    /** The call must save one state, and undo must bring everything back (the buffer is the caller's). */
+    /** The call must save one state, and undo must bring everything back; the buffer is empty. */
     static void undoable(SkipRows x, String what, Call call) {
         int saved = x.count(12);
         long before = stateOf(x);
@@ -69,24 +73,18 @@ final class Check {
         due("the state after " + what + " and undo()", stateOf(x), before);
     }
 
-    /** A hash of all that undo brings back, so without the buffer and the number of saved states. */
+    /**
+     * A hash of all that undo brings back: the digest but for the number of saved states, the 13th value
+     * in it, of an object with an empty buffer. The digest is one call alone: no object promises anything
+     * behind 512 of them.
+     */
     static long stateOf(SkipRows x) {
-        long state = 7;
-        for (int what = 0; what < 12; what++) {
-            state = state * 31 + x.count(what);
+        int valuesBehind = 4 + 11 * x.count(1) + 4 * (7 + 3) + 8 * 4 + 2 + 1 + 1 + 1;
+        long weight = 1;
+        for (int i = 0; i < valuesBehind; i++) {
+            weight *= 31;
         }
-        for (int at = 0; at < 4; at++) {
-            state = state * 31 + x.setting(at);
-            for (int what = 0; what <= 6; what++) {
-                state = state * 31 + x.reader(at, what);
-            }
-        }
-        for (int row = 0; row < x.count(1); row++) {
-            for (int what = 0; what <= 10; what++) {
-                state = state * 31 + x.row(row, what);
-            }
-        }
-        return state;
+        return x.digest() - x.count(12) * weight;
     }
 
     static void type(SkipRows x, String text) {

@@ -18,6 +18,7 @@ public final class FaceTest {
         Check.isTrue("the methods are " + methods(face) + ", due are " + due(), methods(face).equals(due()));
         constructors(face);
         fields(face);
+        namesOfItsOwn(face, face);
         for (Class<?> inside : face.getDeclaredClasses()) {
             int modifiers = inside.getModifiers();
             boolean hidden = !Modifier.isPublic(modifiers) && !Modifier.isProtected(modifiers);
@@ -29,6 +30,9 @@ public final class FaceTest {
 
     private static void namesOfItsOwn(Class<?> face, Class<?> inside) {
         for (Method method : inside.getDeclaredMethods()) {
+            if (inside == face && Modifier.isPublic(method.getModifiers())) {
+                continue;
+            }
             for (Method open : face.getDeclaredMethods()) {
                 boolean same = Modifier.isPublic(open.getModifiers()) && open.getName().equals(method.getName());
                 Check.isTrue(method + " bears the name of a method of the face", !same);

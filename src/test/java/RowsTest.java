@@ -89,7 +89,7 @@ public final class RowsTest {
     }
 
     private static void urgeRefuses() {
-        SkipRows x = withOneOfEachState();
+        SkipRows x = Tables.ofEachState();
         int[] bad = {-1, 4, Integer.MIN_VALUE, Integer.MAX_VALUE};
         for (int row : bad) {
             Check.outOfBounds(x, "urge(" + row + ", 10)", () -> x.urge(row, 10));
@@ -103,7 +103,7 @@ public final class RowsTest {
     }
 
     private static void revive() {
-        SkipRows x = withOneOfEachState();
+        SkipRows x = Tables.ofEachState();
         Check.undoable(x, "revive(3)", () -> x.revive(3));
         Check.due("revive(3)", x.revive(3), 1);
         Check.due("its state then", x.row(3, 3), 0);
@@ -121,7 +121,7 @@ public final class RowsTest {
     }
 
     private static void reviveRefuses() {
-        SkipRows x = withOneOfEachState();
+        SkipRows x = Tables.ofEachState();
         for (int row = 0; row < 3; row++) {
             int at = row;
             Check.badState(x, "revive(" + row + ")", () -> x.revive(at));
@@ -160,7 +160,7 @@ public final class RowsTest {
         Check.due("its state", x.row(3, 3), 0);
         Check.due("its holder", x.row(3, 4), -1);
         Check.due("sweep() again", x.sweep(), 0);
-        SkipRows other = withOneOfEachState();
+        SkipRows other = Tables.ofEachState();
         Check.due("sweep() leaves waiting, held and dead rows", other.sweep(), 1);
         Check.due("the dead row is there still", other.row(2, 3), 3);
     }
@@ -261,26 +261,5 @@ public final class RowsTest {
         }
         Check.badArgument(x, "set(3, MAX)", () -> x.set(3, Integer.MAX_VALUE));
         Check.badArgument(x, "set(3, MIN)", () -> x.set(3, Integer.MIN_VALUE));
-    }
-
-    /** The row 0 waits, 1 is held by the reader 1, 2 is done, 3 is dead. */
-    private static SkipRows withOneOfEachState() {
-        SkipRows x = new SkipRows();
-        x.put(0, 0);
-        x.put(0, 7);
-        x.put(0, 8);
-        x.put(0, 9);
-        x.set(1, 1);
-        x.take(0, 1);
-        x.pass(5);
-        x.take(1, 1);
-        x.done(1, 2);
-        x.take(1, 1);
-        for (int row = 0; row < 4; row++) {
-            Check.due("the state of the row " + row, x.row(row, 3), row);
-        }
-        x.undo();
-        x.take(1, 1);
-        return x;
     }
 }

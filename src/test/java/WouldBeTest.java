@@ -10,6 +10,7 @@ public final class WouldBeTest {
         fairness();
         digestOfNew();
         digestByParts();
+        digestOfEachFairness();
         Check.end("WouldBeTest");
     }
 
@@ -47,13 +48,11 @@ public final class WouldBeTest {
     }
 
     private static void ifTakenLooksLikeTake() {
-        SkipRows x = new SkipRows();
-        Check.type(x, "k1u3*2;k2u9;k1u9;k3*3;k2");
-        x.putAll();
-        x.set(2, 1);
-        x.takes(2, 2 + 4);
-        x.take(0, 1);
         for (int most = 1; most <= 24; most++) {
+            SkipRows x = Tables.of("k1u3*2;k2u9;k1u9;k3*3;k2");
+            x.set(2, 1);
+            x.takes(2, 2 + 4);
+            x.take(0, 1);
             int rows = x.ifTaken(2, most, 0);
             int mask = x.ifTaken(2, most, 1);
             int skips = x.ifTaken(2, most, 2);
@@ -65,7 +64,6 @@ public final class WouldBeTest {
                 held |= x.row(row, 4) == 2 ? 1 << row : 0;
             }
             Check.due("the rows of it", held, mask);
-            x.undo();
         }
     }
 
@@ -168,7 +166,6 @@ public final class WouldBeTest {
             x.giveBack(0, 1);
             Check.due("skips of the row 0", x.row(0, 7), skips);
             Check.due("fairness()", x.fairness(), 1.0 / (1.0 + skips));
-            digestFits(x);
         }
         x.take(1, 1);
         Check.due("fairness(): skips of a held row do not count", x.fairness(), 1.0);
@@ -178,89 +175,55 @@ public final class WouldBeTest {
 
     private static void digestOfNew() {
         SkipRows x = new SkipRows();
-        digestFits(x);
+        digestFits(x, "");
         x.append('k');
-        digestFits(x);
+        digestFits(x, "k");
         Check.isTrue("the buffer is in the digest", x.digest() != new SkipRows().digest());
         Check.due("digest() twice", x.digest(), x.digest());
     }
 
     private static void digestByParts() {
-        SkipRows x = new SkipRows();
-        Check.type(x, "k3u5*5;k3u9*2;k2u5;k0;k7u1");
-        x.putAll();
-        digestFits(x);
-        x.set(1, 1);
-        x.set(2, 1);
-        x.takes(1, 77);
-        x.take(1, 3);
-        digestFits(x);
+        digestFits(Tables.of("k3u5*5;k3u9*2;k2u5;k0;k7u1"), "");
+        digestFits(taken(), "");
         for (int lasts = 9; lasts <= 11; lasts++) {
+            SkipRows x = taken();
             x.set(0, lasts);
             x.renew(1);
-            digestFits(x);
+            digestFits(x, "");
         }
+        SkipRows x = taken();
         x.pass(11);
         x.take(2, 4);
         x.done(2, 1);
         Check.type(x, "~!k");
-        digestFits(x);
+        digestFits(x, "~!k");
         x.sweep();
-        digestFits(x);
+        digestFits(x, "~!k");
     }
 
-    private static void digestFits(SkipRows x) {
-        Check.due("digest()", x.digest(), digestOf(x));
+    private static SkipRows taken() {
+        SkipRows x = Tables.of("k3u5*5;k3u9*2;k2u5;k0;k7u1");
+        x.set(1, 1);
+        x.set(2, 1);
+        x.takes(1, 77);
+        x.take(1, 3);
+        return x;
     }
 
-    /** The digest as the document tells it, from the answers of the other calls. */
-    private static long digestOf(SkipRows x) {
-        long[] hash = {2683};
-        for (int what = 0; what <= 12; what++) {
-            mix(hash, x.count(what));
-        }
-        for (int setting = 0; setting <= 3; setting++) {
-            mix(hash, x.setting(setting));
-        }
-        for (int row = 0; row < x.count(1); row++) {
-            for (int what = 0; what <= 10; what++) {
-                mix(hash, x.row(row, what));
+    /** The bits of 1.0 / (1.0 + skips), as Double.doubleToLongBits has them. */
+    private static void digestOfEachFairness() {
+        for (int skips = 1; skips <= 400; skips++) {
+            SkipRows x = Tables.of("k0");
+            x.takes(0, 0);
+            for (int i = 0; i < skips; i++) {
+                x.take(0, 1);
             }
+            Check.due("skips of the row 0", x.row(0, 7), skips);
+            digestFits(x, "");
         }
-        for (int reader = 0; reader < 4; reader++) {
-            for (int what = 0; what <= 6; what++) {
-                mix(hash, x.reader(reader, what));
-            }
-            for (int what = 0; what <= 2; what++) {
-                mix(hash, x.ifTaken(reader, 24, what));
-            }
-        }
-        for (int key = 0; key < 8; key++) {
-            for (int what = 0; what <= 3; what++) {
-                mix(hash, x.group(key, SkipRows.NONE, what));
-            }
-        }
-        mix(hash, x.ifPassed(10, 0));
-        mix(hash, x.ifPassed(10, 1));
-        mix(hash, x.freest());
-        mix(hash, Double.doubleToLongBits(x.fairness()));
-        String text = takeBuffer(x);
-        mix(hash, text.length());
-        for (int i = 0; i < text.length(); i++) {
-            mix(hash, text.charAt(i));
-        }
-        return hash[0];
     }
 
-    private static void mix(long[] hash, long value) {
-        hash[0] = 31 * hash[0] + value;
-    }
-
-    /** No call tells the characters of the buffer, so these tests type no others than these. */
-    private static String takeBuffer(SkipRows x) {
-        int length = x.clearBuffer();
-        String text = length == 0 ? "" : length == 1 ? "k" : "~!k";
-        Check.type(x, text);
-        return text;
+    private static void digestFits(SkipRows x, String buffer) {
+        Check.due("digest()", x.digest(), Digest.of(x, buffer));
     }
 }
