@@ -356,6 +356,11 @@ public final class LookEdgesTest {
         Check.due("pairs with one row held", x.count(10), 23);
         x.done(0, 16);
         Check.due("pairs with one row done", x.count(10), 23);
+        SkipRows alike = Tables.of("k3u3*3");
+        alike.take(0, 2);
+        Check.due("pairs with two rows held ahead of one alike", alike.count(10), 1);
+        alike.done(0, 0);
+        Check.due("pairs with one of them done", alike.count(10), 1);
         SkipRows each = Tables.ofEachState();
         Check.due("pairs with held, done and dead rows", each.count(10), 1);
         each.urge(0, 7);

@@ -56,20 +56,13 @@ enum Scene {
     ALL_HELD("") {
         @Override
         void play(SkipRows x) {
-            Tables.put(x, "k0*9;k1*9;k2*6");
-            x.set(3, 24);
-            x.take(3, 24);
+            holdAll(x);
         }
     },
     ALL_DONE("k0*9;k1*9;k2*7") {
         @Override
         void play(SkipRows x) {
-            Tables.put(x, "k0*9;k1*9;k2*6");
-            x.set(3, 24);
-            x.take(3, 24);
-            for (int row = 0; row < 24; row++) {
-                x.done(3, row);
-            }
+            doAll(x);
         }
     },
     ALL_DEAD("k0") {
@@ -85,12 +78,7 @@ enum Scene {
     SWEPT("k0*9;k1*9;k2*6") {
         @Override
         void play(SkipRows x) {
-            Tables.put(x, "k0*9;k1*9;k2*6");
-            x.set(3, 24);
-            x.take(3, 24);
-            for (int row = 0; row < 24; row++) {
-                x.done(3, row);
-            }
+            doAll(x);
             x.sweep();
         }
     },
@@ -224,6 +212,19 @@ enum Scene {
     }
 
     abstract void play(SkipRows x);
+
+    private static void holdAll(SkipRows x) {
+        Tables.put(x, "k0*9;k1*9;k2*6");
+        x.set(3, 24);
+        x.take(3, 24);
+    }
+
+    private static void doAll(SkipRows x) {
+        holdAll(x);
+        for (int row = 0; row < 24; row++) {
+            x.done(3, row);
+        }
+    }
 
     SkipRows make() {
         SkipRows x = new SkipRows();
